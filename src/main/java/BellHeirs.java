@@ -16,6 +16,7 @@ public final class BellHeirs {
     private static final int MOST_BRACKETS = 8;
     private static final int MOST_NUMBER = 1000;
     private static final int MOST_UNDONE = 16;
+    private static final int MOST_IMAGES = 2;
     private static final int MOST_RIGHTS = 99;
     private static final int MOST_PURSE = 999;
     private static final int LAST_YEAR = 999;
@@ -104,8 +105,7 @@ public final class BellHeirs {
 
     private final Suburb town = new Suburb();
     private final Suburb paper = new Suburb();
-    private final Suburb[] images = new Suburb[] {new Suburb(), new Suburb()};
-    private final boolean[] imageKept = new boolean[2];
+    private final Suburb[] images = new Suburb[MOST_IMAGES];
     private final Log log = new Log();
     private final Tape tape = new Tape();
     private final Reader reader = new Reader(tape);
@@ -513,22 +513,25 @@ public final class BellHeirs {
     }
 
     public int image(int k) {
-        if (k != 0 && k != 1) {
+        if (!isWithin(k, MOST_IMAGES - 1)) {
             return refuse(BAD_NUMBER);
         }
+        if (images[k] == null) {
+            images[k] = new Suburb();
+        }
         images[k].copyFrom(town);
-        imageKept[k] = true;
         return accept(0);
     }
 
     public int back(int k) {
-        if (k != 0 && k != 1) {
+        if (!isWithin(k, MOST_IMAGES - 1)) {
             return refuse(BAD_NUMBER);
         }
-        if (!imageKept[k]) {
+        Suburb then = images[k];
+        if (then == null) {
             return refuse(NO_SUCH);
         }
-        town.copyFrom(images[k]);
+        town.copyFrom(then);
         log.clear();
         return accept(0);
     }
@@ -651,13 +654,11 @@ public final class BellHeirs {
         private int next = 0;
         int size = 0;
 
-        Log() {
-            for (int i = 0; i < MOST_UNDONE; i++) {
-                ledgers[i] = new Ledger();
-            }
-        }
-
         void push(int kind, Ledger now) {
+            // A ledger is made once only: later deeds are written over it.
+            if (ledgers[next] == null) {
+                ledgers[next] = new Ledger();
+            }
             ledgers[next].copyFrom(now);
             kinds[next] = kind;
             next = (next + 1) % MOST_UNDONE;
@@ -670,7 +671,11 @@ public final class BellHeirs {
             }
             next = (next + MOST_UNDONE - 1) % MOST_UNDONE;
             size--;
-            into.copyFrom(ledgers[next]);
+            Ledger then = ledgers[next];
+            if (then == null) {
+                return NONE;
+            }
+            into.copyFrom(then);
             return kinds[next];
         }
 

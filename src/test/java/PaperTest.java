@@ -208,6 +208,9 @@ public final class PaperTest {
         BellHeirs y = new BellHeirs();
         y.person(0, 0, 0);
         is("31 no houses", y.look(1), -1);
+        BellHeirs z = with(2, 8, 0);
+        is("31 eight", z.look(0), 0);
+        is("31 eight", z.look(1), 8);
     }
 
     private static void promise32() {

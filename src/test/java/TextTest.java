@@ -188,6 +188,9 @@ public final class TextTest {
         faultAt("tires " + repeat("1+", 24) + "1;tires " + repeat("1+", 24) + "1;tires age", 118);
         is("8 brackets", Due.law(x, "tires " + repeat("[", 8) + "1" + repeat("]", 8)), 3);
         faultAt("tires " + repeat("[", 9) + "1" + repeat("]", 9), 14);
+        faultAt("bars if " + repeat("(", 9) + "1=1" + repeat(")", 9), 16);
+        faultAt("bars if " + repeat("(", 8) + "[1]=1" + repeat(")", 8), 16);
+        faultAt("tires " + repeat("1+", 50) + ";bars", 106);
         faultAt("bars if " + repeat("(", 4) + repeat("[", 5) + "1" + repeat("]", 5) + "=1" + repeat(")", 4), 16);
         is("8 brackets of both kinds", Due.law(x, "bars if " + repeat("(", 4) + repeat("[", 4) + "1" + repeat("]", 4)
             + "=1" + repeat(")", 4)), 4);
