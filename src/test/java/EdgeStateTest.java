@@ -1608,6 +1608,7 @@ public final class EdgeStateTest {
         hasNone();
         asksNone();
         forceOfWhich();
+        fiveHundredAndTwelveCalls();
     }
 
     /** Promise 3: NONE. */
@@ -1720,5 +1721,20 @@ public final class EdgeStateTest {
         is("20 stays", x.count(12), 5);
         is("20 NONE", x.force(-1), 5);
         is("20 as without a law", x.has(0, 0, 4), 1);
+    }
+
+    /** An object is used for at most 512 calls after it has been made: the last of them is answered, too. */
+    private static void fiveHundredAndTwelveCalls() {
+        BellHeirs x = new BellHeirs();
+        x.house(0, 0);
+        x.person(0, 0, 0);
+        x.right(0, 0, 99);
+        for (int calls = 3; calls < 510; calls += 3) {
+            is("ring", x.ring(0, 0), 1);
+            is("used", x.has(0, 0, 1), 1);
+            is("undo", x.undo(), 0);
+        }
+        is("the 511th", x.ring(0, 0), 1);
+        is("the 512th", x.at(0, 2), 1);
     }
 }

@@ -233,6 +233,7 @@ public final class EdgeTextTest {
         eightSquareBrackets();
         eightRoundBrackets();
         eightBracketsOfBothKinds();
+        eightBracketsOfEachSum();
         bracketsBesideOneAnother();
         sixLaws();
         eachTextAnew();
@@ -349,6 +350,24 @@ public final class EdgeTextTest {
             String behind = "bars if " + "(".repeat(round) + "1=" + "[".repeat(8 - round);
             fine(behind + "1" + "]".repeat(8 - round) + ")".repeat(round));
             faultAt(behind + "[1]" + "]".repeat(8 - round) + ")".repeat(round), 18);
+        }
+    }
+
+    /** Each SUM of a CLAUSE begins without brackets. */
+    private static void eightBracketsOfEachSum() {
+        String eight = "[[[[[[[[1]]]]]]]]";
+        String nine = "[[[[[[[[[1]]]]]]]]]";
+        String[] laws = {"tires #", "costs #", "worth #", "bars if #=1", "bars if 1<#", "bars if 1=1 and #>1",
+            "bars if 1=1 or #>1", "bars if not #>1", "tires 1+#", "tires 1*#"};
+        for (String law : laws) {
+            fine(law.replace("#", eight));
+            faultAt(law.replace("#", nine), law.indexOf('#') + 8);
+        }
+        String[] orders = {"ring # at 0", "ring 0 at #", "sell # to 1 of 0", "sell 0 to # of 0", "sell 0 to 1 of #",
+            "die #", "pass if #=1", "pass if 1=#", "pass times 2 if 1=#"};
+        for (String text : orders) {
+            fineOrders(text.replace("#", eight));
+            ordersFaultAt(text.replace("#", nine), text.indexOf('#') + 8);
         }
     }
 
@@ -905,6 +924,9 @@ public final class EdgeTextTest {
         is("worth", under("worth 2;worth 3;worth 4 if house=1").at(0, 4), 3);
         is("worth", under("worth 2;worth 3;worth 4 if house=1").at(1, 4), 4);
         is("not so, though its sum is broken", under("tires 2;tires 1/0 if 1=2").has(0, 0, 4), 2);
+        is("behind a broken one", under("tires 1/0;tires 3").has(0, 0, 4), 3);
+        is("behind a broken if", under("bars if 1/0=1;tires 3;opens if 1=1").has(0, 0, 4), 3);
+        is("behind a broken if", under("bars if 1/0=1;tires 3;opens if 1=1").has(0, 0, 3), 1);
     }
 
     /** 1 without; 5 without; 10 without. */
@@ -1033,6 +1055,7 @@ public final class EdgeTextTest {
         is("17 till it is not so", Due.orders(x, "pass times 20 if year<15"), 3);
         is("17 asked each time", Due.orders(x, "pass times 20 if done<7;pass times 5 if done<9"), 9);
         is("17 only some times", Due.orders(x, "ring 0 at 0 times 3;pass times 4 if weary 0>2"), 4);
+        is("17 behind a broken if", Due.orders(x, "die 0 if 1/0=1;pass;ring 0 at 0 if 1=1;pass times 2 if 1=1"), 4);
         is("17 broken some times", Due.orders(x, "pass times 3;pass times 3 if 3/[4-done]=3"), 4);
     }
 
