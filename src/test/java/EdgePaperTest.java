@@ -326,11 +326,18 @@ public final class EdgePaperTest {
     /** PEOPLE 0 .. 7. */
     private static void exchangeOfEight() {
         BellHeirs x = with(1, 8, 0);
+        givers("27 nobody of eight", x, 100, 100, 100, 100, 100, 100, 100, 100);
         for (int p = 0; p < 8; p++) {
             x.want(p, 0);
             x.right(p, 0, 1);
         }
         givers("27 eight", x, 1, 0, 3, 2, 5, 4, 7, 6);
+        x.want(7, -1);
+        givers("27 all but the last", x, 1, 0, 3, 2, 5, 6, 4, 100);
+        x.want(7, 0);
+        x.want(0, -1);
+        givers("27 all but the first", x, 100, 2, 1, 4, 3, 6, 7, 5);
+        x.want(0, 0);
         is("27 what 9", x.exchange(9), -1);
         is("27 what 100", x.exchange(100), -1);
     }
