@@ -634,7 +634,8 @@ public final class BellHeirs {
         final int[] used = new int[MOST_PEOPLE * MOST_HOUSES];
         final int[] weary = new int[MOST_HOUSES];
         final int[] purse = new int[MOST_PEOPLE];
-        final boolean[] dead = new boolean[MOST_PEOPLE];
+        // As bits of people.
+        int dead = 0;
         int year = 0;
 
         void copyFrom(Ledger other) {
@@ -642,7 +643,7 @@ public final class BellHeirs {
             System.arraycopy(other.used, 0, used, 0, used.length);
             System.arraycopy(other.weary, 0, weary, 0, weary.length);
             System.arraycopy(other.purse, 0, purse, 0, purse.length);
-            System.arraycopy(other.dead, 0, dead, 0, dead.length);
+            dead = other.dead;
             year = other.year;
         }
     }
@@ -753,7 +754,7 @@ public final class BellHeirs {
             want[added] = NONE;
             heirs[added] = 0;
             ledger.purse[added] = money;
-            ledger.dead[added] = false;
+            ledger.dead &= ~(1 << added);
             for (int house = 0; house < MOST_HOUSES; house++) {
                 ledger.rights[slot(added, house)] = 0;
                 ledger.used[slot(added, house)] = 0;
@@ -783,7 +784,7 @@ public final class BellHeirs {
         }
 
         boolean lives(int person) {
-            return hasPerson(person) && !ledger.dead[person];
+            return hasPerson(person) && !hasBit(ledger.dead, person);
         }
 
         int rightsOf(int person, int house) {
@@ -1580,7 +1581,7 @@ public final class BellHeirs {
                     divide(suburb, person, house, own / living, own % living);
                 }
             }
-            ledger.dead[person] = true;
+            ledger.dead |= 1 << person;
             return living;
         }
 

@@ -9,12 +9,14 @@ public final class ModelTest {
     private final Model m = new Model();
     private final int run;
     private final boolean wild;
+    private final boolean full;
     private int parts;
 
     private ModelTest(int run) {
         this.run = run;
         random = new Random(run);
         wild = run % 5 == 0;
+        full = run % 10 == 4;
     }
 
     public static void main(String[] args) {
@@ -48,7 +50,9 @@ public final class ModelTest {
 
     private void go() {
         int calls = 0;
-        if (!wild) {
+        if (full) {
+            fillSuburb();
+        } else if (!wild) {
             for (int i = 0; i < 3; i++) {
                 oneHouse();
                 onePerson();
@@ -62,6 +66,24 @@ public final class ModelTest {
             }
         }
         readAll();
+    }
+
+    /** All houses and people there can be, with wants, heirs and a few rights each. */
+    private void fillSuburb() {
+        for (int i = 0; i < 20; i++) {
+            oneHouse();
+            onePerson();
+        }
+        for (int p = 0; p < x.count(1); p++) {
+            int wanted = below(7) - 1;
+            int heirs = below(256);
+            is("want", x.want(p, wanted), m.want(p, wanted));
+            is("will", x.will(p, heirs & ~(1 << p)), m.will(p, heirs & ~(1 << p)));
+            for (int h = 0; h < x.count(0); h++) {
+                int rings = below(3) == 0 ? 0 : below(8);
+                is("right", x.right(p, h, rings), m.right(p, h, rings));
+            }
+        }
     }
 
     private void oneHouse() {
