@@ -528,6 +528,21 @@ public final class EdgePaperTest {
             eight.right(p, 5, 1);
         }
         looks("31 eight", eight, 5, 4);
+        eight.right(7, 1, 1);
+        eight.right(0, 2, 1);
+        eight.right(1, 2, 1);
+        eight.right(2, 2, 1);
+        looks("31 the least is the last", eight, 5, 4);
+        eight.right(0, 5, 0);
+        eight.right(1, 5, 0);
+        looks("31 the least is between", eight, 2, 5);
+        for (int p = 0; p < 4; p++) {
+            eight.right(p, 0, 1);
+        }
+        looks("31 the least is the first", eight, 0, 4);
+        eight.right(0, 5, 1);
+        eight.right(1, 5, 1);
+        looks("31 the first and the last are alike", eight, 0, 4);
     }
 
     // ---------------------------------------------------------------- AMENDED, GIVEN OUT
@@ -1182,6 +1197,16 @@ public final class EdgePaperTest {
         is("38 house -1", x.drawn(0, -1), -1);
         is("38 house 2", x.drawn(0, 2), -1);
         is("38 far ones", x.drawn(LOW, HIGH), -1);
+        for (int beyond = 3; beyond < 20; beyond++) {
+            is("38 person " + beyond, x.drawn(beyond, 1), -1);
+            is("38 house " + beyond, x.drawn(1, beyond), -1);
+            is("38 person " + -beyond, x.drawn(-beyond, 1), -1);
+            is("38 house " + -beyond, x.drawn(1, -beyond), -1);
+        }
+        is("38 person least", x.drawn(LOW, 0), -1);
+        is("38 person greatest", x.drawn(HIGH, 0), -1);
+        is("38 house least", x.drawn(0, LOW), -1);
+        is("38 house greatest", x.drawn(0, HIGH), -1);
         x.right(2, 1, 5);
         is("38 as it was then", x.drawn(2, 1), 9);
         x.generations(-1, 1);
