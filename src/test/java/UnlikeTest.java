@@ -19,6 +19,11 @@ public final class UnlikeTest {
         whoseSale();
         paperUsedAgain();
         noRoom();
+        peopleAheadOfHouses();
+        newOnesTakeNothing("hphphphphphppp");
+        newOnesTakeNothing("pphphhphpphphp");
+        newOnesTakeNothing("hhhphphppphppp");
+        homesOfImages();
         due.end();
     }
 
@@ -180,6 +185,9 @@ public final class UnlikeTest {
         is("17 left of all HOUSES", Due.orders(x, "pass if left 0 = 6; pass if left 1 = 4; pass if weary 5 = 0 and weary 1 = 0"), 3);
         is("21", x.ring(1, 5), 1);
         is("3", x.at(5, 2), 1);
+        is("8 fewer than USED", x.right(1, 5, 0), -3);
+        is("8 as many as USED", x.right(1, 5, 1), 3);
+        is("8", x.right(1, 5, 3), 1);
         is("17 weary", Due.orders(x, "pass if left 1 = 3 and weary 5 = 1"), 1);
         is("23", x.will(1, 1), 0);
         is("23", x.die(1), 1);
@@ -265,9 +273,17 @@ public final class UnlikeTest {
         is("33 two of three", x.given(0, 99, 0), 66);
         is("32 RIGHTS 6 and 3, BEARS 6", x.amend(0, 1), 1);
         is("3 all RIGHTS", x.at(0, 3), 9);
-        is("26 one LEFT", x.visits(0, 0, -1), 1);
+        x.right(0, 1, 3);
+        x.right(1, 1, 6);
+        for (int i = 0; i < 5; i++) {
+            x.ring(1, 1);
+        }
+        is("33 RIGHTS 3 and 6, LEFT 3 and 1", x.given(1, 3, 0), 1);
+        is("33 RIGHTS 3 and 6, LEFT 3 and 1", x.given(1, 3, 1), 2);
+        is("33 the first ring", x.given(1, 1, 1), 1);
+        is("26 one LEFT", x.visits(0, 0, -1), 2);
         x.ring(0, 0);
-        is("26 none LEFT", x.visits(0, 0, -1), 0);
+        is("26 none LEFT", x.visits(0, 0, -1), 1);
         is("35 nothing LEFT", x.chain(0, 1, 0, -1), -1);
         is("22 nothing LEFT", x.sell(0, 1, 0), -3);
         x.will(0, 4);
@@ -403,5 +419,98 @@ public final class UnlikeTest {
         is("42", x.status(), -5);
         is("41", x.count(10), 4);
         is("25 still to be undone", x.count(5), 3);
+    }
+
+    /** Six HOUSES come though eight people are there, and the other way. */
+    private static void peopleAheadOfHouses() {
+        BellHeirs x = new BellHeirs();
+        for (int i = 0; i < 8; i++) {
+            is("4", x.person(24 - i, 90 - i, 900 - i), i);
+        }
+        for (int i = 0; i < 6; i++) {
+            is("2", x.house(23 - i, 80 - i), i);
+        }
+        BellHeirs y = new BellHeirs();
+        for (int i = 0; i < 6; i++) {
+            is("2", y.house(23 - i, 80 - i), i);
+        }
+        for (int i = 0; i < 8; i++) {
+            is("4", y.person(24 - i, 90 - i, 900 - i), i);
+        }
+        for (int i = 0; i < 8; i++) {
+            for (int what = 0; what < 6; what++) {
+                is("5", x.of(i, what), y.of(i, what));
+            }
+            is("5 home", x.of(i, 0), 24 - i);
+            is("5 age", x.of(i, 1), 90 - i);
+            is("5 purse", x.of(i, 2), 900 - i);
+            is("3 place", x.at(i, 0), i < 6 ? 23 - i : -1);
+            is("3 bears", x.at(i, 1), i < 6 ? 80 - i : -1);
+        }
+    }
+
+    /** A new HOUSE, a new PERSON leaves RIGHTS and USED of all others as they are. */
+    private static void newOnesTakeNothing(String order) {
+        BellHeirs x = new BellHeirs();
+        int houses = 0;
+        int people = 0;
+        for (char next : order.toCharArray()) {
+            if (next == 'h') {
+                is("2", x.house(0, 0), houses++);
+            } else {
+                is("4", x.person(0, 0, 0), people++);
+            }
+            for (int p = 0; p < people; p++) {
+                for (int h = 0; h < houses; h++) {
+                    boolean isNew = next == 'h' ? h == houses - 1 : p == people - 1;
+                    is("9 RIGHTS of " + p + " to " + h, x.has(p, h, 0), isNew ? 0 : 1 + p + h);
+                    is("9 USED of " + p + " of " + h, x.has(p, h, 1), isNew ? 0 : 1);
+                    if (isNew) {
+                        x.right(p, h, 1 + p + h);
+                        x.ring(p, h);
+                    }
+                }
+            }
+        }
+    }
+
+    /** An IMAGE keeps all eight people and six HOUSES. */
+    private static void homesOfImages() {
+        BellHeirs x = new BellHeirs();
+        x.image(0);
+        fill(x, 0);
+        x.image(1);
+        x.back(0);
+        is("40", x.count(1), 0);
+        fill(x, 7);
+        x.back(1);
+        for (int i = 0; i < 8; i++) {
+            is("40 home", x.of(i, 0), i);
+            is("40 age", x.of(i, 1), 10 + i);
+            is("40 purse", x.of(i, 2), 20 + i);
+            is("40 want", x.of(i, 3), i % 6);
+            is("40 heirs", x.of(i, 4), 1 << (i + 1) % 8);
+            is("40 place", x.at(i, 0), i < 6 ? 10 + i : -1);
+            is("40 bears", x.at(i, 1), i < 6 ? 30 + i : -1);
+            for (int h = 0; h < 6; h++) {
+                is("40 rights", x.has(i, h, 0), 40 + i + h);
+            }
+        }
+    }
+
+    private static void fill(BellHeirs x, int more) {
+        for (int i = 0; i < 6; i++) {
+            x.house(10 + i + more, 30 + i + more);
+        }
+        for (int i = 0; i < 8; i++) {
+            x.person(i + more, 10 + i + more, 20 + i + more);
+        }
+        for (int i = 0; i < 8; i++) {
+            x.want(i, (i + more) % 6);
+            x.will(i, 1 << (i + 1 + more / 7) % 8);
+            for (int h = 0; h < 6; h++) {
+                x.right(i, h, 40 + i + h + more);
+            }
+        }
     }
 }
